@@ -153,6 +153,10 @@ public final class PromisesTest {
         faultOf("p,1;", 0);
         faultOf("p-1,1;", 0);
         faultOf("p0:1;", 0);
+        faultOf("p0,1;w:;", 5);
+        faultOf("p0,1;w1:;", 5);
+        faultOf("p0,1;w/;", 5);
+        faultOf("p0,1;w2/;", 5);
         faultOf("p0,1,", 0);
         faultOf("p0;1,", 0);
         faultOf("p0,1;s1;", 5);
@@ -405,6 +409,7 @@ public final class PromisesTest {
         due("first of none", x.alike(1), NONE);
         allBad("alike", x::alike, -1, 2, LEAST, MOST);
         due("all six alike", laid("p0,1;".repeat(6)).alike(0), 15);
+        due("the first pair of six", laid("p0,1;".repeat(6)).alike(1), 1);
     }
 
     private static void known() {
@@ -474,6 +479,9 @@ public final class PromisesTest {
         TrimmedPeaks few = laid("p0,1;p0,1;o0,0,1;o1,0,1;o1,1,1;o1,4,1;");
         due("tell fewest", few.tell(0), 1);
         due("tell fewest, lowest", few.tell(1), 2);
+        TrimmedPeaks all = laid("p0,1;".repeat(6) + "o1,0,1;o2,1,1;o3,2,1;o4,3,1;o5,4,1;");
+        due("tell by all", all.tell(0), 5);
+        due("tell by all five", all.tell(1), 31);
         due("tell none", laid("p0,1;p0,1;").tell(0), NONE);
         due("tell none by", laid("p0,1;p0,1;").tell(1), NONE);
         allBad("tell", x::tell, -1, 2, LEAST, MOST);
@@ -498,6 +506,21 @@ public final class PromisesTest {
         TrimmedPeaks short1 = laid("p0,1;p0,1;p0,1;p0,1;o2,1,1;o3,1,1;s0,1;s1,0;s2,0;s3,0;s4,0;");
         due("one for two", short1.add(-1), NONE);
         due("one for two, first", short1.add(0), NONE);
+        TrimmedPeaks lone = laid("p0,1;p0,1;o0,1,1;o1,1,1;o0,4,1;o1,4,1;o0,0,1;o1,0,1;o0,2,1;o1,2,1;s3,1;");
+        due("the only one", lone.add(0), 3);
+        TrimmedPeaks last = laid("p0,1;p0,1;p0,1;o0,0,1;o1,4,1;o2,4,1;s0,0;s1,0;s2,0;s3,0;s4,9;");
+        due("what is on can't be put on", last.add(-1), NONE);
+        TrimmedPeaks next = laid("p0,1;p0,1;p0,1;p0,1;o2,4,1;o3,4,1;s2,0;s3,0;s4,0;s0,1;s1,1;");
+        due("two kinds, first", next.add(0), 0);
+        due("two kinds, second", next.add(1), 21);
+        TrimmedPeaks beside = laid("p0,1;p0,1;p0,1;o1,0,1;o1,1,1;o2,0,1;o2,1,1;s0,1;s1,1;s2,0;s3,0;s4,0;");
+        due("nothing for the pair that is left", beside.add(-1), NONE);
+        due("the very first place", laid("p0,1;p0,1;").add(0), 0);
+        due("the last trimming", laid("p0,1;p0,1;p0,1;o0,0,1;s0,0;s1,0;s2,0;s3,0;").add(0), 14);
+        TrimmedPeaks same = laid("p0,1;p0,1;p0,1;p0,1;o2,0,1;o3,1,1;s0,1;s1,1;s2,0;s3,0;s4,0;");
+        due("both on one peak", same.add(-1), 2);
+        due("both on one peak, first", same.add(0), 0);
+        due("both on one peak, second", same.add(1), 1);
         due("three are too many", laid("p0,1;".repeat(4)).add(-1), NONE);
         due("nothing changes", two.count(2) + two.count(7), 0);
         allBad("add", two::add, -2, 2, LEAST, MOST);
@@ -617,6 +640,8 @@ public final class PromisesTest {
         chance(goats, 0, 1, 2, 5, 1, 2);
         chance(goats, 0, 0, 2, 5, 1, 4);
         chance(goats, 0, 0, 3, 0, 0, 1);
+        chance(laid("p0,1;o0,0,9;w0;w0;w8;"), 0, 0, 3, 0, 0, 1);
+        chance(laid("p0,1;o0,0,9;w0;w8;w0;"), 0, 0, 3, 0, 1, 1);
         TrimmedPeaks later = yearOn(laid("p0,1;o0,0,9;w0;w9;"));
         chance(later, 0, 0, 1, 1, 0, 1);
         allBad("storms p", p -> x.storms(p, 0, 1, 1, 0), -1, 3, LEAST, MOST);
@@ -648,7 +673,16 @@ public final class PromisesTest {
         due("draw 35404, it is not on", laid("p0,1;p0,1;w0;").century(15, 1, 0), 0);
         // z 2: x is 15839, 21990: the draws 59533 (nothing), 15120: a bow on peak 0 with 3 pins
         due("the second draw", laid("p0,1;p0,1;w4;w3;").century(2, 2, 0), 1);
+        due("the second draw, 3 pins", laid("p0,1;p0,1;w4;w4;").century(2, 2, 0), 0);
         due("the first draw alone", laid("p0,1;p0,1;w4;w3;").century(2, 1, 0), 0);
+        // z 7: x is 55434, the draw 58977: a bow with 8 pins on peak 0 of two, on peak 1 of three
+        due("draw 58977, 8 pins", laid("p0,1;p0,1;w8;").century(7, 1, 0), 1);
+        due("draw 58977, of two", laid("p0,1;p0,1;o0,1,20;w0;").century(7, 1, 0), 1);
+        due("draw 58977, of three", laid("p0,1;p0,1;p0,1;o1,1,20;w0;").century(7, 1, 0), 1);
+        // z 20: x is 158381, the draw 22874, 2 modulo 8: a feather on peak 1 with 9 pins
+        due("draw 22874 puts on", laid("p0,1;p0,1;w9;").century(20, 1, 0), 1);
+        due("draw 22803 never puts on", laid("p0,1;p0,1;w0;").century(1, 1, 0), 0);
+        due("the last z and the longest", laid("p0,1;w20;").century(9999, 60, 0), 0);
         due("from now on", yearOn(laid("p0,1;p0,1;w0;w6;")).century(10, 1, 0), 1);
         due("from now on, in wind", yearOn(laid("p0,1;p0,1;w0;w7;")).century(10, 1, 0), 0);
         allBad("century z", z -> x.century(z, 1, 0), -1, 10000, LEAST, MOST);
