@@ -17,7 +17,7 @@ public final class TrimmedPeaks {
     private static final int KINDS = 4, WINDY = 1, SHELTERED = 2, GOATS = 3;
     private static final int TRIMMINGS = 5, BRIM = 3, ALL_TRIMMINGS = 31, PINS_MOST = 20;
     private static final int STORE_MOST = 9, STORE_WITHOUT = 2;
-    private static final int WINDS_MOST = 12, WIND_MOST = 20, WIND_WITHOUT = 3, KIND_OF_WIND = 2;
+    private static final int WINDS_MOST = 12, WIND_MOST = 20, WIND_WITHOUT = 3, WIND_BY_KIND = 2;
     private static final int YEAR_MOST = 999, PASS_MOST = 20, LOOK_AHEAD_MOST = 99, GOES_MOST = 60;
     private static final int LIGHT_MOST = 12, SHADE = 3;
     private static final int UNDONE_MOST = 8, KEPT_MOST = 2, SAID_MOST = 6;
@@ -31,8 +31,8 @@ public final class TrimmedPeaks {
     private final Range range = new Range();
     private final State now = new State();
     private final State trial = new State();
-    private final Pile acts = new Pile(UNDONE_MOST);
-    private final Pile ranges = new Pile(KEPT_MOST);
+    private final Pile undoable = new Pile(UNDONE_MOST);
+    private final Pile kept = new Pile(KEPT_MOST);
     private final int[] faces = new int[PEAKS_MOST];
     private final int[] added = new int[2];
     private final int[] ways = new int[1 << PEAKS_MOST];
@@ -107,7 +107,7 @@ public final class TrimmedPeaks {
         if (!now.canPut(p, t)) {
             return NO;
         }
-        acts.layBy(now);
+        undoable.layBy(now);
         now.putOn(p, t, n);
         return now.looksOf(p);
     }
@@ -119,7 +119,7 @@ public final class TrimmedPeaks {
         if (!now.isOn(p, t)) {
             return NO;
         }
-        acts.layBy(now);
+        undoable.layBy(now);
         now.takeOff(p, t);
         return now.looksOf(p);
     }
@@ -132,7 +132,7 @@ public final class TrimmedPeaks {
             return NO;
         }
         int had = now.pinsOn(p, t);
-        acts.layBy(now);
+        undoable.layBy(now);
         now.setPins(p, t, n);
         return had;
     }
@@ -144,13 +144,13 @@ public final class TrimmedPeaks {
         if (now.yearNow() + n > YEAR_MOST) {
             return NO;
         }
-        acts.layBy(now);
+        undoable.layBy(now);
         letYearsGoBy(now, n);
         return now.yearNow();
     }
 
     public int undo() {
-        return acts.fetch(now) ? acts.held : NO;
+        return undoable.fetch(now) ? undoable.held : NO;
     }
 
     // ---- what comes
@@ -314,19 +314,19 @@ public final class TrimmedPeaks {
     }
 
     public int keep() {
-        if (ranges.held >= KEPT_MOST) {
+        if (kept.held >= KEPT_MOST) {
             return FULL;
         }
-        ranges.layBy(now);
-        return ranges.held;
+        kept.layBy(now);
+        return kept.held;
     }
 
     public int back() {
-        if (!ranges.fetch(now)) {
+        if (!kept.fetch(now)) {
             return NO;
         }
-        acts.held = 0;
-        return ranges.held;
+        undoable.held = 0;
+        return kept.held;
     }
 
     public int count(int what) {
@@ -338,8 +338,8 @@ public final class TrimmedPeaks {
             case 4: return now.sumOf(0, PLACES);
             case 5: return peaksKnownAsThemselves();
             case 6: return saidCount;
-            case 7: return acts.held;
-            case 8: return ranges.held;
+            case 7: return undoable.held;
+            case 8: return kept.held;
             case 9: return scribe.length;
             default: return BAD;
         }
@@ -372,8 +372,8 @@ public final class TrimmedPeaks {
         range.become(scribe.range);
         now.become(scribe.state);
         now.makeGuides();
-        acts.held = 0;
-        ranges.held = 0;
+        undoable.held = 0;
+        kept.held = 0;
         forget();
         return true;
     }
@@ -768,9 +768,9 @@ public final class TrimmedPeaks {
         private int forceAt(int p, int strength) {
             int kind = kindOf(p);
             if (kind == WINDY) {
-                return strength + KIND_OF_WIND;
+                return strength + WIND_BY_KIND;
             }
-            return kind == SHELTERED ? Math.max(0, strength - KIND_OF_WIND) : strength;
+            return kind == SHELTERED ? Math.max(0, strength - WIND_BY_KIND) : strength;
         }
     }
 
