@@ -1,14 +1,5 @@
-import java.util.function.IntUnaryOperator;
-
 /** Each promise by hand: ordinary inputs, the edges that the document names, and wrong inputs. */
-public final class PromisesTest {
-    private static final int BAD = TrimmedPeaks.BAD, NO = TrimmedPeaks.NO;
-    private static final int FULL = TrimmedPeaks.FULL, NONE = TrimmedPeaks.NONE;
-    private static final int VEIL = 0, BOW = 1, FEATHER = 2, BRIM = 3, LACE = 4;
-    private static final int LEAST = Integer.MIN_VALUE, MOST = Integer.MAX_VALUE;
-
-    private static int wrong = 0;
-
+public final class PromisesTest extends Checks {
     public static void main(String[] args) {
         newObject();
         write();
@@ -44,47 +35,7 @@ public final class PromisesTest {
         back();
         count();
         firstOfSeveralWrongs();
-        System.out.println(wrong == 0 ? "PromisesTest: all as due" : "PromisesTest: " + wrong + " wrong");
-        if (wrong != 0) {
-            System.exit(1);
-        }
-    }
-
-    private static void due(String what, int got, int want) {
-        if (got != want) {
-            wrong++;
-            System.out.println(what + " answered " + got + ", due is " + want);
-        }
-    }
-
-    private static void allBad(String what, IntUnaryOperator call, int... numbers) {
-        for (int number : numbers) {
-            due(what + " of " + number, call.applyAsInt(number), BAD);
-        }
-    }
-
-    private static TrimmedPeaks written(String text) {
-        TrimmedPeaks x = new TrimmedPeaks();
-        for (int i = 0; i < text.length(); i++) {
-            due("write of " + text, x.write(text.charAt(i)), i + 1);
-        }
-        return x;
-    }
-
-    private static TrimmedPeaks laid(String text) {
-        TrimmedPeaks x = written(text);
-        due("fault of " + text, x.fault(), NONE);
-        if (x.lay() < 1) {
-            due("lay of " + text, NO, 1);
-        }
-        return x;
-    }
-
-    private static void faultOf(String text, int want) {
-        due("fault of '" + text + "'", written(text).fault(), want);
-        if (want != NONE) {
-            due("lay of '" + text + "'", written(text).lay(), NO);
-        }
+        end("PromisesTest");
     }
 
     private static void newObject() {
