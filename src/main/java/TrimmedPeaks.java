@@ -838,7 +838,7 @@ public final class TrimmedPeaks {
         }
 
         private boolean canPut(int p, int t) {
-            return pinsOn(p, t) == 0 && inStore(t) > 0;
+            return isTrimming(t) && pinsOn(p, t) == 0 && cells[STORE_AT + t] > 0;
         }
 
         private void putOn(int p, int t, int n) {

@@ -380,6 +380,9 @@ public final class AheadBoundsTest extends Checks {
         three.put(0, VEIL, 1);
         three.put(1, BOW, 1);
         due("none alike then", three.alike(0), 0);
+        String lastThree = "p0,1;".repeat(6) + "o0,0,1;o0,1,1;o1,0,1;o1,2,1;o2,1,1;o2,2,1;";
+        addIs("the last three of six", laid(lastThree), 2, 30, 41);
+        addIs("the last three of six, the last two kinds", laid(lastThree + NO_STORE + "s3,1;s4,1;"), 2, 33, 44);
         addIs("four alike", laid("p0,1;".repeat(4)), NONE, NONE, NONE);
         addIs("six alike", laid("p0,1;".repeat(6)), NONE, NONE, NONE);
         addIs("two pairs", laid("p0,1;".repeat(4) + "o2,4,1;o3,4,1;"), 2, 0, 20);

@@ -198,13 +198,14 @@ public final class StormsBoundsTest extends Checks {
         }
     }
 
-    /** z 0, 9, 20: the draws 1, 51417, 22874: 1, 2 and 9 pins. */
+    /** The draws 1, 42056, 56728, 24609, 53177, 21488, 35777, 58977, 54873 put one on with 1, 2, .. 9 pins. */
     private static void centuryPins() {
-        due("1 pin", laid("p0,1;p0,1;w0;").century(0, 1, 0), 0);
-        due("2 pins in 2", laid("p0,1;p0,1;w2;").century(9, 1, 0), 1);
-        due("2 pins in 3", laid("p0,1;p0,1;w3;").century(9, 1, 0), 0);
-        due("9 pins in 9", laid("p0,1;p0,1;w9;").century(20, 1, 0), 1);
-        due("9 pins in 10", laid("p0,1;p0,1;w10;").century(20, 1, 0), 0);
+        int[] draws = {0, 42, 5, 185, 55, 163, 219, 7, 395};
+        for (int pins = 1; pins <= 9; pins++) {
+            int z = draws[pins - 1];
+            due(pins + " pins in as much", laid("p0,1;p0,1;w" + pins + ";").century(z, 1, 0), pins > 1 ? 1 : 0);
+            due(pins + " pins in more", laid("p0,1;p0,1;w" + (pins + 1) + ";").century(z, 1, 0), 0);
+        }
         // z 60: the draw is 8844: the brim of peak 1 is pinned with 9
         due("pinned with 9 in 9", laid("p0,1;p0,1;o1,3,1;w9;").century(60, 1, 0), 1);
         due("pinned with 9 in 10", laid("p0,1;p0,1;o1,3,20;w10;").century(60, 1, 0), 0);

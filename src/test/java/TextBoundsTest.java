@@ -232,15 +232,19 @@ public final class TextBoundsTest extends Checks {
     }
 
     private static void faultChangesNothing() {
-        TrimmedPeaks x = written("p3,3;s0,9;w20;q");
-        due("fault", x.fault(), 14);
-        due("fault again", x.fault(), 14);
-        due("letters", x.count(9), 15);
-        due("peaks", x.count(0), 5);
-        due("kind", x.peak(0, 0), 0);
-        due("store", x.store(VEIL), 3);
-        due("wind", x.wind(0), 3);
-        due("trimmings on", x.count(2), 7);
+        String[] texts = {"p3,3;s0,9;w20;q", "p3,3;s0,9;w20;", "w20;"};
+        int[] faults = {14, NONE, NONE};
+        for (int i = 0; i < texts.length; i++) {
+            TrimmedPeaks x = written(texts[i]);
+            due("fault", x.fault(), faults[i]);
+            due("fault again", x.fault(), faults[i]);
+            due("letters", x.count(9), texts[i].length());
+            due("peaks", x.count(0), 5);
+            due("kind", x.peak(0, 0), 0);
+            due("store", x.store(VEIL), 3);
+            due("wind", x.wind(0), 3);
+            due("trimmings on", x.count(2), 7);
+        }
     }
 
     private static void kinds() {
