@@ -299,6 +299,8 @@ public final class AheadBoundsTest extends Checks {
         x.take(1, FEATHER);
         due("the next is the lowest at goats", x.hold(2), 4 + (6 - 3) + (7 - 5));
         due("pins stay", x.count(4), 29);
+        due("each on its own peak, once", laid("p0,1;p0,1;p0,1;o1,0,1;o2,0,1;w0;").hold(1), 2);
+        due("each by its own force", laid("p1,1;p2,1;p1,1;o1,0,2;o1,4,2;w2;").hold(1), 0);
     }
 
     private static void holdHolds() {
