@@ -331,7 +331,8 @@ public final class AheadBoundsTest extends Checks {
         StringBuilder on = new StringBuilder();
         for (int peaks = 2; peaks <= 6; peaks++) {
             on.append("o").append(peaks - 1).append(",").append(peaks - 2).append(",1;");
-            tellIs("a trimming for each of " + peaks, laid("p0,1;".repeat(peaks) + on), peaks - 1, (1 << peaks - 1) - 1);
+            TrimmedPeaks x = laid("p0,1;".repeat(peaks) + on);
+            tellIs("a trimming for each of " + peaks, x, peaks - 1, (1 << peaks - 1) - 1);
         }
         String byTwoOrThree = "p0,1;p0,1;p0,1;p0,1;o1,3,1;o1,0,1;o2,4,1;o2,1,1;o3,3,1;o3,4,1;o3,2,1;";
         tellIs("two that are higher ahead of three", laid(byTwoOrThree), 2, 24);
@@ -396,7 +397,8 @@ public final class AheadBoundsTest extends Checks {
         addIs("none in store", laid(two + NO_STORE), NONE, NONE, NONE);
         for (int t = 0; t < 5; t++) {
             addIs("one in store, " + t, laid(two + NO_STORE + "s" + t + ",1;"), 1, t, NONE);
-            addIs("on both, " + t, laid(two + NO_STORE + "s" + t + ",9;o0," + t + ",1;o1," + t + ",1;"), NONE, NONE, NONE);
+            TrimmedPeaks both = laid(two + NO_STORE + "s" + t + ",9;o0," + t + ",1;o1," + t + ",1;");
+            addIs("on both, " + t, both, NONE, NONE, NONE);
         }
         TrimmedPeaks x = laid(two + NO_STORE + "o0,2,1;o1,2,1;o0,3,1;");
         addIs("apart", x, 0, NONE, NONE);
