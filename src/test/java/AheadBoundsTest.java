@@ -413,6 +413,8 @@ public final class AheadBoundsTest extends Checks {
         addIs("three of a kind", laid(pairs + "s0,3;"), 2, 0, 20);
         addIs("one each of two kinds", laid(pairs + "s0,1;s1,1;"), 2, 0, 21);
         addIs("one and two", laid(pairs + "s2,1;s3,2;"), 2, 2, 23);
+        String otherPairs = "p0,1;p0,1;p0,1;p0,1;o0,0,1;o0,1,1;o1,0,1;o1,1,1;" + NO_STORE;
+        addIs("the kind of the other is the lower one", laid(otherPairs + "s0,1;s4,1;"), 2, 4, 20);
     }
 
     private static void addFirst() {

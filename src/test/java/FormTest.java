@@ -1,4 +1,6 @@
+import com.sun.management.ThreadMXBean;
 import java.io.IOException;
+import java.lang.management.ManagementFactory;
 import java.lang.reflect.Constructor;
 import java.lang.reflect.Field;
 import java.lang.reflect.Method;
@@ -19,10 +21,24 @@ public final class FormTest {
     private static final String FACE = "write1 wipe0 fault0 lay0 peak2 pins2 store1 wind1 put3 take2 pin3 pass1 undo0 "
         + "alike1 known1 behind2 goes2 hold1 tell1 add1 say2 forget0 which0 ask1 match1 storms5 century3 keep0 back0 "
         + "count1";
-    private static final String[] FORBIDDEN = {
-        "\\bthrow\\b", "\\btry\\b", "\\bcatch\\b", "\\bfinally\\b", "\\bsynchronized\\b", "\\bassert\\b", "->", "::",
-        "\\bRandom\\b", "System\\.(?!arraycopy)", "Exact\\b", "\\bpackage\\b", "static \\{", "\\bThread\\b",
-        "\\bMath\\.random", "\\bvar\\b",
+    private static final List<String> CONSTANTS = List.of("BAD", "NO", "FULL", "NONE");
+    private static final List<String> IMPORTS = List.of("Arrays", "ArrayList", "List", "Iterator",
+        "NoSuchElementException");
+    private static final String EXCEPTIONS = "(IllegalState|IllegalArgument|IndexOutOfBounds|Arithmetic|"
+        + "UnsupportedOperation|NoSuchElement|Runtime)Exception\\b";
+
+    /** What a rule leaves out, by the rule's number. */
+    private static final String[][] FORBIDDEN = {
+        {"the file has no package", "\\bpackage\\b"},
+        {"2: no lambda", "(?m)^(?!\\s*(case\\b|default\\b)).*->"},
+        {"2: no method reference", "::"},
+        {"4: no function whose name ends in Exact", "Exact\\b"},
+        {"4: of System only arraycopy", "System\\.(?!arraycopy\\b)"},
+        {"5: no static initialiser block", "\\bstatic\\s*\\{"},
+        {"6: no finally, synchronized, assert", "\\b(finally|synchronized|assert)\\b"},
+        {"6: throw of these alone", "\\bthrow\\s+(?!new " + EXCEPTIONS + ")"},
+        {"6: catch of these alone", "\\bcatch\\s*\\(\\s*(?!" + EXCEPTIONS + ")"},
+        {"13: no randomness, no thread", "\\b(Random|Thread|random)\\b"},
     };
 
     private static int wrong = 0;
@@ -32,7 +48,8 @@ public final class FormTest {
         constants();
         fieldsAndMethods();
         source();
-        noObjectsByCalls();
+        methodsAreShort();
+        room();
         System.out.println(wrong == 0 ? "FormTest: all as due" : "FormTest: " + wrong + " wrong");
         if (wrong != 0) {
             System.exit(1);
@@ -50,24 +67,29 @@ public final class FormTest {
         Set<String> due = new TreeSet<>(Arrays.asList(FACE.split(" ")));
         Set<String> open = new TreeSet<>();
         for (Method method : TrimmedPeaks.class.getDeclaredMethods()) {
-            if (!Modifier.isPrivate(method.getModifiers())) {
+            if (!Modifier.isPrivate(method.getModifiers()) && !method.isSynthetic()) {
                 open.add(method.getName() + method.getParameterCount());
                 due(Modifier.isPublic(method.getModifiers()), method + " is public");
+                due(!Modifier.isStatic(method.getModifiers()), method + " is of an object");
                 due(method.getReturnType() == int.class, method + " answers an int");
+                due(Arrays.stream(method.getParameterTypes()).allMatch(int.class::equals), method + " takes ints");
             }
         }
         due(due.equals(open), "the face is " + due + ", it is " + open);
         due(Modifier.isFinal(TrimmedPeaks.class.getModifiers()), "the class is final");
-        Constructor<?>[] constructors = TrimmedPeaks.class.getDeclaredConstructors();
-        due(constructors.length == 1 && constructors[0].getParameterCount() == 0, "one constructor");
+        due(Modifier.isPublic(TrimmedPeaks.class.getModifiers()), "the class is public");
+        Constructor<?>[] constructors = TrimmedPeaks.class.getConstructors();
+        due(constructors.length == 1 && constructors[0].getParameterCount() == 0, "one public constructor");
     }
 
     private static void constants() throws ReflectiveOperationException {
-        String[] names = {"BAD", "NO", "FULL", "NONE"};
-        for (int i = 0; i < names.length; i++) {
-            due(TrimmedPeaks.class.getField(names[i]).getInt(null) == -1 - i, names[i]);
+        for (int i = 0; i < CONSTANTS.size(); i++) {
+            due(TrimmedPeaks.class.getField(CONSTANTS.get(i)).getInt(null) == -1 - i, CONSTANTS.get(i));
         }
-        due(TrimmedPeaks.class.getFields().length == names.length, "no other public constant");
+        for (Field field : TrimmedPeaks.class.getDeclaredFields()) {
+            boolean isOfFace = CONSTANTS.contains(field.getName()) && Modifier.isFinal(field.getModifiers());
+            due(isOfFace || Modifier.isPrivate(field.getModifiers()) || field.isSynthetic(), field + " is private");
+        }
     }
 
     private static void fieldsAndMethods() {
@@ -91,28 +113,61 @@ public final class FormTest {
         }
     }
 
+    private static String code() throws IOException {
+        return Files.readString(SOURCE).replaceAll("(?s)/\\*.*?\\*/", "").replaceAll("//[^\n]*", "");
+    }
+
     private static void source() throws IOException {
-        String code = Files.readString(SOURCE).replaceAll("(?s)/\\*.*?\\*/", "").replaceAll("//[^\n]*", "");
-        for (String word : FORBIDDEN) {
-            Matcher matcher = Pattern.compile(word).matcher(code);
-            due(!matcher.find(), "there is no " + word);
+        String code = code();
+        for (String[] rule : FORBIDDEN) {
+            Matcher matcher = Pattern.compile(rule[1]).matcher(code);
+            due(!matcher.find(), "rule " + rule[0]);
         }
         for (String line : code.split("\n")) {
-            due(!line.startsWith("import") || line.equals("import java.util.Arrays;"), line);
+            boolean isImport = line.startsWith("import ");
+            due(!isImport || IMPORTS.stream().anyMatch(name -> line.equals("import java.util." + name + ";")), line);
             due(line.chars().allMatch(sign -> sign < 127), "plain signs: " + line);
         }
     }
 
-    /** All calls of a run live in one room, so calls make nothing. */
-    private static void noObjectsByCalls() throws IOException {
-        String code = Files.readString(SOURCE);
-        int made = 0;
-        for (String line : code.split("\n")) {
-            boolean isMade = line.contains("new ") && !line.trim().startsWith("*") && !line.trim().startsWith("/");
-            boolean isField = line.trim().startsWith("private final") || line.trim().startsWith("this.cells");
-            due(!isMade || isField, "made with the object: " + line);
-            made += isMade ? 1 : 0;
+    /** From a line that opens a method to the one that closes it, as far in as that. */
+    private static void methodsAreShort() throws IOException {
+        Matcher method = Pattern.compile("(?m)^( {4,8})(?:public|private)[^\n;=]*\\) \\{\n(?:.*\n)*?\\1\\}$")
+            .matcher(code());
+        int methods = 0;
+        while (method.find()) {
+            methods++;
+            int lines = method.group().split("\n").length;
+            due(lines <= 60, lines + " lines: " + method.group().split("\n")[0]);
         }
-        due(made > 0, "rows are made");
+        due(methods >= 31, "methods are seen: " + methods);
+    }
+
+    /**
+     * All calls of a run live in one room of 7.3 million fields and elements, some 58 million bytes: a hundred
+     * objects, each with its 512 dearest calls, are to fit.
+     */
+    private static void room() {
+        ThreadMXBean threads = (ThreadMXBean) ManagementFactory.getThreadMXBean();
+        dearestCalls(); // the machine's own objects, made once
+        long before = threads.getCurrentThreadAllocatedBytes();
+        int sum = dearestCalls();
+        long made = threads.getCurrentThreadAllocatedBytes() - before;
+        due(made >= 0 && made <= 580_000, "made by 512 calls: " + made + " bytes, sum " + sum);
+    }
+
+    private static int dearestCalls() {
+        TrimmedPeaks x = new TrimmedPeaks();
+        int sum = 0;
+        for (int i = 0; i < 30; i++) {
+            sum += x.write(' ') + x.fault() + x.lay();
+            sum += x.put(i % 5, 4, 20) + x.pin(i % 5, 4, 3) + x.take(i % 5, 4) + x.pass(20) + x.undo();
+            sum += x.behind(20, 3) + x.goes(1, 0) + x.hold(20) + x.tell(1) + x.add(1) + x.ask(1);
+            sum += x.match(-1) + x.storms(3, 0, 8, 5, 1);
+        }
+        for (int i = 0; i < 32; i++) {
+            sum += x.century(i, 60, 1);
+        }
+        return sum;
     }
 }

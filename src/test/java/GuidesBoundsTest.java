@@ -253,6 +253,12 @@ public final class GuidesBoundsTest extends Checks {
         matchIs("the second the last", x, 1, 1, 2, 0);
         x.take(2, VEIL);
         matchIs("the lowest for peak 0 ahead", x, 2, 0, 2, 1);
+        TrimmedPeaks left = laid("p0,1;p0,1;p0,1;o0,1,9;o1,0,9;o1,2,9;o2,0,9;");
+        left.take(0, BOW);
+        left.put(0, VEIL, 1);
+        left.take(1, VEIL);
+        left.take(2, VEIL);
+        matchIs("the lowest that leaves a way for the others", left, 1, 2, 1, 0);
     }
 
     private static void matchNone() {

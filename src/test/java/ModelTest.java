@@ -16,6 +16,8 @@ import java.util.regex.Pattern;
 public final class ModelTest {
     /** With a text of 200 letters an object is used 502 times; nothing is promised behind the 512th call. */
     private static final int RUNS = 2000, CALLS = 300;
+    /** In some runs the last years are near; these many calls fewer are left then. */
+    private static final int LATE_PASSES = 49;
     private static final int BAD = -1, NO = -2, FULL = -3, NONE = -4;
 
     public static void main(String[] args) {
@@ -53,7 +55,15 @@ public final class ModelTest {
                 return true;
             }
         }
-        for (int i = 0; i < CALLS; i++) {
+        int passes = run % 7 == 3 ? LATE_PASSES : 0;
+        for (int i = 0; i < passes; i++) {
+            if (x.pass(20) != model.pass(20)) {
+                System.out.println("run " + run + ": pass(20) is wrong behind " + told);
+                return true;
+            }
+        }
+        told.add("passes of 20 years: " + passes);
+        for (int i = passes; i < CALLS; i++) {
             int call = random.nextInt(30);
             int[] a = randomArguments(random, call, model.kinds.size());
             int got = ofClass(x, call, a);

@@ -12,6 +12,7 @@ public final class StormsBoundsTest extends Checks {
         sentence("27 STORMS: in lowest terms", StormsBoundsTest::stormLowestTerms);
         sentence("27 STORMS: not ON", StormsBoundsTest::stormNotOn);
         sentence("27 STORMS: nothing changes", StormsBoundsTest::stormChangesNothing);
+        sentence("27 STORMS: beyond the last YEAR, too", StormsBoundsTest::stormLastYear);
         sentence("28 A CENTURY: z 0 to 9999, n 1 to 60", StormsBoundsTest::centuryNumbers);
         sentence("28 A CENTURY: 0 to 2 PUT ON, 3 TAKEN OFF, 4 PINNED", StormsBoundsTest::centuryActs);
         sentence("28 A CENTURY: modulo as many PEAKS as there are", StormsBoundsTest::centuryPeaks);
@@ -22,6 +23,7 @@ public final class StormsBoundsTest extends Checks {
         sentence("28 A CENTURY: the last YEAR of 60", StormsBoundsTest::centuryLastYear);
         sentence("28 A CENTURY: each if it can be", StormsBoundsTest::centuryIfItCanBe);
         sentence("28 A CENTURY: from now on", StormsBoundsTest::centuryFromNowOn);
+        sentence("28 A CENTURY: beyond the last YEAR, too", StormsBoundsTest::centuryBeyondLastYear);
         sentence("28 A CENTURY: pairs ALIKE", StormsBoundsTest::centuryAlike);
         sentence("28 A CENTURY: nothing changes by it", StormsBoundsTest::centuryChangesNothing);
         sentence("29 KEPT: 2 at most", StormsBoundsTest::keptAtMost);
@@ -151,6 +153,16 @@ public final class StormsBoundsTest extends Checks {
         due("acts", x.count(7), 0);
     }
 
+    private static void stormLastYear() {
+        TrimmedPeaks x = inYear(laid("p0,1;w0;w3;"), 999);
+        x.put(0, VEIL, 3);
+        chance("3 in the wind of 999", x, of(0, VEIL, 1, 0), 1, 1);
+        chance("2 in no wind", x, of(0, VEIL, 2, 0), 1, 1);
+        chance("2 in no wind by chance", x, of(0, VEIL, 2, 5), 1, 4);
+        chance("1 in the wind of 999 again", x, of(0, VEIL, 3, 0), 0, 1);
+        due("still 999", x.count(1), 999);
+    }
+
     private static void centuryNumbers() {
         TrimmedPeaks x = laid("p0,1;p0,1;w0;");
         due("z 0", x.century(0, 1, 1), 1);
@@ -262,6 +274,18 @@ public final class StormsBoundsTest extends Checks {
         due("alike as it stands now", x.century(10, 1, 1), 1);
         x.undo();
         due("undone", x.century(10, 1, 0), 1);
+    }
+
+    /** z 10: behind the feather with 6 pins the draw 8125 does nothing, and 6089 puts a veil on peak 1 with 3. */
+    private static void centuryBeyondLastYear() {
+        TrimmedPeaks x = inYear(laid("p0,1;p0,1;w3;w4;w2;w6;"), 999);
+        due("6 pins in the wind of 999", x.century(10, 1, 0), 1);
+        due("5 in that of the next", x.century(10, 2, 0), 1);
+        due("of 4 and 3 one in 4", x.century(10, 3, 0), 1);
+        due("apart then", x.century(10, 3, 1), 0);
+        due("60 years", x.century(10, 60, 1) >= 0 ? 1 : 0, 1);
+        due("still 999", x.count(1), 999);
+        due("nothing on", x.count(2), 0);
     }
 
     private static void centuryAlike() {
